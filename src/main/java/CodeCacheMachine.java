@@ -151,7 +151,7 @@ public final class CodeCacheMachine {
         spot = 0;
     }
 
-    /** What place p is translated to, or BAD. */
+    /** BAD if the place can't be translated. */
     private int translate(int p, boolean writing) {
         if (!isPlace(p)) {
             return BAD;
@@ -178,12 +178,9 @@ public final class CodeCacheMachine {
         int at = translate(currentPlace, false);
         if (at == BAD) {
             trapAtSpot(currentPlace);
-        } else {
-            execute(memory[at]);
+            return;
         }
-    }
-
-    private void execute(int w) {
+        int w = memory[at];
         int o = w & 31;
         if (o == 0) {
             state = HALTED;
@@ -200,7 +197,7 @@ public final class CodeCacheMachine {
         } else if (o <= 25) {
             control(w);
         } else if (o == 26) {
-            print(registers[partA(w)]);
+            print(w);
         } else {
             trap(CAUSE_UNKNOWN);
         }
@@ -312,9 +309,10 @@ public final class CodeCacheMachine {
         }
     }
 
-    private void print(int value) {
-        if (outputCount < OUTPUT_SHOWN) {
-            outputShown[outputCount] = value;
+    private void print(int w) {
+        // The count is looked at from below, too: far beyond the promised calls it wraps, and nothing may throw.
+        if (outputCount >= 0 && outputCount < OUTPUT_SHOWN) {
+            outputShown[outputCount] = registers[partA(w)];
         }
         outputCount++;
         currentPlace++;
