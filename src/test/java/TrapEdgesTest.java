@@ -33,6 +33,7 @@ public final class TrapEdgesTest {
         untranslatedInstructionWithoutAVector();
         untranslatedInstructionInInner();
         spotOfAnAbsentPage();
+        leavingUnderPaging();
         readsForThreeNumbersAlone();
         promise16ForEveryNumber();
         Due.finish();
@@ -199,6 +200,21 @@ public final class TrapEdgesTest {
         CodeCacheMachine x = inner(50, 1, trap);
         x.poke(71, 2 + 16 * 7);
         return x;
+    }
+
+    /** "24 the place becomes RETURN, the mode outer, paging as KEPT": KEPT is off, so paging goes off. */
+    private static void leavingUnderPaging() {
+        for (int paging = 0; paging <= 1; paging++) {
+            int[] leave = {Op.LEAVE, 0, 0, 0};
+            Map<String, Integer> want = Shot.of(inner(50, paging, leave));
+            want.put("executed()", want.get("executed()") + 1);
+            want.put("place()", 5);
+            want.put("look(5)", 0);
+            want.put("look(6)", 0);
+            CodeCacheMachine x = inner(50, paging, leave);
+            Due.due("24 with paging " + paging, x.run(1), CodeCacheMachine.GOING);
+            Shot.due("24 with paging " + paging, x, want);
+        }
     }
 
     /** "25 ra = RETURN, CAUSE or SPOT (for n = 0, 1, 2; ...)": the numbers beside are among INNER_TRAPS. */
