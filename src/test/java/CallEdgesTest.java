@@ -22,7 +22,8 @@ public final class CallEdgesTest {
         promise8SetRegisterInside();
         promise8SetRegisterRefused();
         promise10LookOutside();
-        promise12And13EmptyOutput();
+        promise12EmptyOutput();
+        promise13EmptyOutput();
         promise12CountsBeyondWhatIsShown();
         promise13OutputUpTo19();
         promise15LevelInside();
@@ -207,15 +208,26 @@ public final class CallEdgesTest {
         return x;
     }
 
-    /** "The number of ints in the output." and "0 if there is none": of an output that is empty. */
-    private static void promise12And13EmptyOutput() {
-        CodeCacheMachine x = printedSoFar(1);
-        Due.due("1 printed: output(0)", x.output(0), 1001);
-        x.reset(0);
-        for (CodeCacheMachine empty : new CodeCacheMachine[] {new CodeCacheMachine(), x}) {
-            Due.due("empty: printed()", empty.printed(), 0);
+    /** Empty from the beginning, and emptied by a reset after one int and after more than are shown. */
+    private static CodeCacheMachine[] empty() {
+        CodeCacheMachine[] machines = {new CodeCacheMachine(), printedSoFar(1), printedSoFar(21)};
+        machines[1].reset(0);
+        machines[2].reset(0);
+        return machines;
+    }
+
+    /** "The number of ints in the output.", of one that is empty. */
+    private static void promise12EmptyOutput() {
+        for (CodeCacheMachine x : empty()) {
+            Due.due("empty: printed()", x.printed(), 0);
+        }
+    }
+
+    /** "0 if there is none", of an output that is empty. */
+    private static void promise13EmptyOutput() {
+        for (CodeCacheMachine x : empty()) {
             for (int k : new int[] {LEAST, -1, 0, 1, 19, 20, GREATEST}) {
-                Due.due("empty: output(" + k + ")", empty.output(k), 0);
+                Due.due("empty: output(" + k + ")", x.output(k), 0);
             }
         }
     }

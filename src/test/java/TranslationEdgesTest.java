@@ -9,6 +9,7 @@ public final class TranslationEdgesTest {
     private static final int[] OUTSIDE = {LEAST, -1, 128, GREATEST};
 
     public static void main(String[] args) {
+        promise11BadIfItCantBe();
         placeIsAsked();
         placeOfAnInstruction();
         placeOfAWordRead();
@@ -37,7 +38,25 @@ public final class TranslationEdgesTest {
         Due.due(what + ": SPOT", x.look(4), spot);
     }
 
-    /** "A place p that is not from 0 to 127 can't be TRANSLATED." and "BAD if it can't be" */
+    /** "What place p is translated to for reading now; BAD if it can't be.": one place by every reason, and now. */
+    private static void promise11BadIfItCantBe() {
+        CodeCacheMachine x = open(1);
+        Due.due("asked: translated(127)", x.translated(127), 127);
+        Due.due("asked outside: translated(128)", x.translated(128), CodeCacheMachine.BAD);
+        x.poke(71, 2 + 16 * 7);
+        Due.due("even word: translated(127)", x.translated(127), CodeCacheMachine.BAD);
+        x.poke(71, 1 + 16 * 6);
+        Due.due("for reading alone: translated(127)", x.translated(127), 111);
+        x.code(52, Op.table(1), 0);
+        x.setRegister(1, 121);
+        x.run(1);
+        Due.due("entry outside: translated(127)", x.translated(127), CodeCacheMachine.BAD);
+        x.reset(0);
+        Due.due("paging off: translated(127)", x.translated(127), 127);
+        Due.due("paging off: translated(128)", x.translated(128), CodeCacheMachine.BAD);
+    }
+
+    /** "A place p that is not from 0 to 127 can't be TRANSLATED." */
     private static void placeIsAsked() {
         for (int paging = 0; paging <= 1; paging++) {
             CodeCacheMachine x = open(paging);

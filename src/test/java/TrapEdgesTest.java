@@ -25,16 +25,19 @@ public final class TrapEdgesTest {
     };
 
     public static void main(String[] args) {
-        causeOfEachInstruction();
+        from27To31();
+        from21To25();
         deadInInnerMode();
         deadWithoutAVector();
         takenFromVector0On();
+        trapsDoNothingElse();
         untranslatedInstructionInOuter();
         untranslatedInstructionWithoutAVector();
         untranslatedInstructionInInner();
         spotOfAnAbsentPage();
         leavingUnderPaging();
-        readsForThreeNumbersAlone();
+        readsForThreeNumbers();
+        readsForNoOtherNumber();
         promise16ForEveryNumber();
         Due.finish();
     }
@@ -43,17 +46,42 @@ public final class TrapEdgesTest {
         return "op " + trap[0] + ", n " + trap[1] + ", r2 " + trap[2];
     }
 
-    /** The instructions beside the ranges "21 to 25" and "27 to 31" do as they should in outer mode. */
-    private static void causeOfEachInstruction() {
-        int[] causes = {0, 4, 2, 2, 2, 2, 2, 0, 1, 1, 1, 1, 1};
-        for (int o = 19; o <= 31; o++) {
-            CodeCacheMachine x = Machines.outer(50);
+    /** Cause 0 stands for an instruction that does not trap. */
+    private static void causeInOuter(int op, int n, int cause) {
+        CodeCacheMachine x = Machines.outer(50);
+        x.code(0, op, n);
+        String what = "op " + op + ", n " + n + " in outer mode";
+        Due.due(what, x.run(1), CodeCacheMachine.GOING);
+        Due.due(what + ": CAUSE", x.look(3), cause);
+        Due.due(what + ": mode", x.look(5), cause == 0 ? 0 : 1);
+    }
+
+    /** "27 to 31: TRAP with cause 1"; 26 and, past the five bits of o, 32 with its o of 0 are beside. */
+    private static void from27To31() {
+        causeInOuter(26, 0, 0);
+        for (int o = 27; o <= 31; o++) {
+            for (int n : new int[] {-131072, 0, 131071}) {
+                causeInOuter(o, n, 1);
+                causeInOuter(Op.of(o, 7, 7, 7), n, 1);
+            }
+            CodeCacheMachine x = new CodeCacheMachine();
             x.code(0, o, 0);
-            Due.due("instruction " + o + " in outer mode", x.run(1), CodeCacheMachine.GOING);
-            Due.due("instruction " + o + " in outer mode: CAUSE", x.look(3), causes[o - 19]);
-            Due.due("instruction " + o + " in outer mode: mode", x.look(5), causes[o - 19] == 0 ? 0 : 1);
+            Due.due("instruction " + o + " in inner mode", x.run(1), CodeCacheMachine.DEAD);
         }
-        for (int o = 21; o <= 26; o++) {
+        CodeCacheMachine x = Machines.outer(50);
+        x.code(0, 32, 0);
+        Due.due("op 32 in outer mode", x.run(1), CodeCacheMachine.HALTED);
+    }
+
+    /** "21 to 25 in outer mode: TRAP with cause 2."; 20 and 26 are beside, and inner mode. */
+    private static void from21To25() {
+        causeInOuter(20, 0, 4);
+        causeInOuter(26, 0, 0);
+        for (int o = 21; o <= 25; o++) {
+            for (int n : new int[] {-131072, 0, 131071}) {
+                causeInOuter(o, n, 2);
+                causeInOuter(Op.of(o, 7, 7, 7), n, 2);
+            }
             CodeCacheMachine x = new CodeCacheMachine();
             x.code(0, o, 0);
             Due.due("instruction " + o + " in inner mode", x.run(1), CodeCacheMachine.GOING);
@@ -122,14 +150,29 @@ public final class TrapEdgesTest {
         }
     }
 
-    /** "Else RETURN becomes the place, CAUSE the cause ..." and "An instruction that traps does nothing else." */
+    /** "Else RETURN becomes the place, CAUSE the cause, KEPT as paging is; paging is off, the mode inner ..." */
     private static void takenFromVector0On() {
         for (int[] trap : OUTER_TRAPS) {
             for (int vector : new int[] {0, 127, 128, GREATEST}) {
                 // CAUSE is 4 before, or 3: so that each cause is seen to come anew.
-                boolean askedLast = trap[3] != 4;
+                CodeCacheMachine x = outer(vector, trap[3] != 4, trap);
                 String what = name(trap) + " in outer mode, VECTOR " + vector;
-                isTaken(what, outer(vector, askedLast, trap), outer(vector, askedLast, trap), trap);
+                Due.due(what + ": run(1)", x.run(1), CodeCacheMachine.GOING);
+                Due.due(what + ": place()", x.place(), vector);
+                int[] looks = {64, vector, 9, trap[3], trap[3] == 3 ? trap[2] : 911, 1, 0, 0};
+                for (int k = 0; k < 8; k++) {
+                    Due.due(what + ": look(" + k + ")", x.look(k), looks[k]);
+                }
+            }
+        }
+    }
+
+    /** "An instruction that traps does nothing else.": every answer but those that the trap itself changes. */
+    private static void trapsDoNothingElse() {
+        for (int[] trap : OUTER_TRAPS) {
+            for (int vector : new int[] {0, GREATEST}) {
+                String what = name(trap) + " in outer mode, VECTOR " + vector;
+                isTaken(what, outer(vector, true, trap), outer(vector, true, trap), trap);
             }
         }
     }
@@ -217,8 +260,8 @@ public final class TrapEdgesTest {
         }
     }
 
-    /** "25 ra = RETURN, CAUSE or SPOT (for n = 0, 1, 2; ...)": the numbers beside are among INNER_TRAPS. */
-    private static void readsForThreeNumbersAlone() {
+    /** "25 ra = RETURN, CAUSE or SPOT (for n = 0, 1, 2; ...)" */
+    private static void readsForThreeNumbers() {
         int[] numbers = {5, 4, 911};
         for (int n = 0; n <= 2; n++) {
             int[] read = {Op.read(1), n, 0, 0};
@@ -229,6 +272,16 @@ public final class TrapEdgesTest {
             CodeCacheMachine x = inner(50, 1, read);
             Due.due("25 with " + n + " in inner mode", x.run(1), CodeCacheMachine.GOING);
             Shot.due("25 with " + n + " in inner mode", x, want);
+        }
+    }
+
+    /** "(...; else TRAP with cause 1)": in inner mode, where alone it can be met, the trap kills. */
+    private static void readsForNoOtherNumber() {
+        for (int n : new int[] {-131072, -1, 3, 131071}) {
+            CodeCacheMachine x = inner(50, 1, new int[] {Op.read(1), n, 0, 1});
+            Due.due("25 with " + n + " in inner mode", x.run(1), CodeCacheMachine.DEAD);
+            Due.due("25 with " + n + " in inner mode: register(1)", x.register(1), -12);
+            Due.due("25 with " + n + " in inner mode: place()", x.place(), 52);
         }
     }
 
