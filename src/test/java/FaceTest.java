@@ -26,6 +26,10 @@ public final class FaceTest {
             Due.due("the document names " + member, want.contains(member), true);
         }
         Due.due("class modifiers", CodeCacheMachine.class.getModifiers(), Modifier.PUBLIC | Modifier.FINAL);
+        Due.due("the class has no package", CodeCacheMachine.class.getPackageName().isEmpty(), true);
+        Due.due("the class extends Object alone", CodeCacheMachine.class.getSuperclass() == Object.class, true);
+        Due.due("interfaces of the class", CodeCacheMachine.class.getInterfaces().length, 0);
+        Due.due("classes in the class", CodeCacheMachine.class.getDeclaredClasses().length, 0);
         Due.due("BAD", CodeCacheMachine.BAD, -1);
         Due.due("GOING", CodeCacheMachine.GOING, 0);
         Due.due("HALTED", CodeCacheMachine.HALTED, 1);

@@ -2,6 +2,8 @@
 public final class ModelTest {
     private static final int OBJECTS = 3000;
     private static final int CALLS = 512;
+    private static final int COMPARED = 32;
+    private static final int STARTED = 9;
     private static final int[] SPECIAL = {64, 96, 0, 112, 127, 128, -1, Integer.MAX_VALUE, Integer.MIN_VALUE};
 
     // How often the runs came to what is worth comparing: without these the test might pass for doing nothing.
@@ -61,17 +63,24 @@ public final class ModelTest {
         return Op.of(o, mixed(8), mixed(8), mixed(8));
     }
 
+    /** Every object is used for all the calls that the document allows, and its last answers are compared, too. */
     private static void useOne(int object) {
         CodeCacheMachine x = new CodeCacheMachine();
         Model y = new Model();
         int calls = fill(x, y) + start(x, y);
-        while (calls < CALLS - 80) {
-            calls += call(object, x, y);
-            if (mixed(4) == 0) {
+        while (calls < CALLS) {
+            int left = CALLS - calls;
+            if (mixed(5) == 0 && left >= COMPARED) {
                 calls += compare(object, x, y);
+            } else if (mixed(14) == 0 && left >= STARTED) {
+                calls += startAnew(x, y);
+            } else if (mixed(8) == 0 || left == 1) {
+                calls += ask(object, x, y);
+            } else {
+                calls += call(object, x, y);
             }
         }
-        compare(object, x, y);
+        Due.due("object " + object + ": calls", calls, CALLS);
     }
 
     /** A program at 0, a page table at 64, a start at 100 and a handler at 110. Answers how many calls it made. */
@@ -107,7 +116,21 @@ public final class ModelTest {
             x.setRegister(r, values[r]);
             y.setRegister(r, values[r]);
         }
-        return 9;
+        return STARTED;
+    }
+
+    /** Seldom while the machine goes; answers how many calls it made. */
+    private static int startAnew(CodeCacheMachine x, Model y) {
+        if (y.run(0) == CodeCacheMachine.GOING && mixed(8) != 0) {
+            return 0;
+        }
+        if (mixed(4) != 0) {
+            return start(x, y);
+        }
+        int place = mixed(4) == 0 ? number() : mixed(60);
+        x.reset(place);
+        y.reset(place);
+        return 1;
     }
 
     /** Answers how many calls it made. */
@@ -117,30 +140,35 @@ public final class ModelTest {
         int n = offset();
         int op = mixed(20) == 0 ? number() : instruction();
         String name = "object " + object + ": ";
-        switch (mixed(14)) {
-            case 0: Due.due(name + "poke", x.poke(p, v), y.poke(p, v)); return 1;
-            case 1: Due.due(name + "code", x.code(p, op, n), y.code(p, op, n)); return 1;
-            case 2: Due.due(name + "code", x.code(x.place(), op, n), y.code(y.place(), op, n)); return 2;
-            case 3: Due.due(name + "code", x.code(x.look(2), op, n), y.code(y.look(2), op, n)); return 2;
-            case 4: Due.due(name + "setRegister", x.setRegister(p, v), y.setRegister(p, v)); return 1;
-            case 5: Due.due(name + "level", x.level(p), y.level(p)); return 1;
-            case 6: return startAnew(x, y, p);
-            case 7: Due.due(name + "run", x.run(v), y.run(v)); return 1;
-            default: Due.due(name + "run", x.run(n), y.run(n)); return 1;
+        switch (mixed(13)) {
+            case 0: Due.due(name + "poke", x.poke(p, v), y.poke(p, v)); break;
+            case 1: Due.due(name + "code", x.code(p, op, n), y.code(p, op, n)); break;
+            case 2: Due.due(name + "code", x.code(y.place(), op, n), y.code(y.place(), op, n)); break;
+            case 3: Due.due(name + "code", x.code(y.look(2), op, n), y.code(y.look(2), op, n)); break;
+            case 4: Due.due(name + "setRegister", x.setRegister(p, v), y.setRegister(p, v)); break;
+            case 5: Due.due(name + "level", x.level(p), y.level(p)); break;
+            case 6: Due.due(name + "run", x.run(v), y.run(v)); break;
+            default: Due.due(name + "run", x.run(n), y.run(n)); break;
         }
+        return 1;
     }
 
-    private static int startAnew(CodeCacheMachine x, Model y, int p) {
-        if (x.run(0) == CodeCacheMachine.GOING && mixed(8) != 0) {
-            return 1;
+    /** Answers how many calls it made. */
+    private static int ask(int object, CodeCacheMachine x, Model y) {
+        int p = number();
+        String name = "object " + object + ": ";
+        switch (mixed(9)) {
+            case 0: Due.due(name + "run(0)", x.run(0), y.run(0)); break;
+            case 1: Due.due(name + "executed()", x.executed(), y.executed()); break;
+            case 2: Due.due(name + "place()", x.place(), y.place()); break;
+            case 3: Due.due(name + "printed()", x.printed(), y.printed()); break;
+            case 4: Due.due(name + "look(" + p + ")", x.look(p), y.look(p)); break;
+            case 5: Due.due(name + "register(" + p + ")", x.register(p), y.register(p)); break;
+            case 6: Due.due(name + "peek(" + p + ")", x.peek(p), y.peek(p)); break;
+            case 7: Due.due(name + "translated(" + p + ")", x.translated(p), y.translated(p)); break;
+            default: Due.due(name + "output(" + p + ")", x.output(p), y.output(p)); break;
         }
-        if (mixed(4) != 0) {
-            return 1 + start(x, y);
-        }
-        int place = mixed(4) == 0 ? p : mixed(60);
-        x.reset(place);
-        y.reset(place);
-        return 2;
+        return 1;
     }
 
     /** Answers how many calls it made. */
@@ -163,7 +191,7 @@ public final class ModelTest {
             Due.due(name + "output(" + k + ")", x.output(k), y.output(k));
         }
         remember(y, state);
-        return 32;
+        return COMPARED;
     }
 
     private static void remember(Model y, int state) {
